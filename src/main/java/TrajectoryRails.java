@@ -1,5 +1,3 @@
-import java.util.Arrays;
-
 /**
  * A checker of circuits of gates and latches against assertions about their trajectories, for all
  * values of the variables at once.
@@ -154,7 +152,7 @@ public final class TrajectoryRails {
     private static final class Tape {
         static final int MOST = 2000;
 
-        final byte[] bytes = new byte[MOST];
+        private final byte[] bytes = new byte[MOST];
         int length;
 
         void put(int word) {
@@ -192,6 +190,7 @@ public final class TrajectoryRails {
         static final long TO = (long) 't' << 8 | 'o';
 
         private final Tape tape;
+        // Each token has a byte of the tape of its own, so there is room for them and END.
         private final int[] kinds = new int[Tape.MOST + 1];
         private final int[] places = new int[Tape.MOST + 1];
         // The bytes of a token, the last one lowest: eight fit, and no allowed token is longer.
@@ -212,7 +211,7 @@ public final class TrajectoryRails {
                 if (first == ' ' || first == '\n') {
                     at++;
                 } else {
-                    at = addToken(at, kindOf(first));
+                    at = Math.max(at + 1, addToken(at, kindOf(first)));
                 }
             }
             kinds[size] = END;
@@ -220,6 +219,7 @@ public final class TrajectoryRails {
             size++;
         }
 
+        /** Where the token that begins there stops. */
         private int addToken(int at, int kind) {
             int stop = stopOf(at, kind);
             long key = 0;
@@ -381,7 +381,7 @@ public final class TrajectoryRails {
     private abstract static class Reader {
         private static final int DEEPEST = 10, MOST_ATOMS = 300;
         // Of the signs: an open bracket, which only its other half sets free, is the weakest.
-        private static final int BRACKET = 0, WEAKEST = 1, INVERTER = 4;
+        private static final int BRACKET = 0, WEAKEST = 1;
         // Ten that are deep, and under each of them and under none one | and one ^ and one &.
         private static final int MOST_WAITING = 64;
 
@@ -460,7 +460,6 @@ public final class TrajectoryRails {
         }
 
         private void takeClosers() {
-            setFree(INVERTER);
             for (int n = 0; n < DEEPEST && tokens.kind() == ')'; n++) {
                 setFree(WEAKEST);
                 if (waits == 0) {
@@ -469,7 +468,6 @@ public final class TrajectoryRails {
                 waits--;
                 depth--;
                 tokens.step();
-                setFree(INVERTER);
             }
         }
 
@@ -499,7 +497,7 @@ public final class TrajectoryRails {
                 case '&':
                     return 3;
                 case '!':
-                    return INVERTER;
+                    return 4;
                 default:
                     return BRACKET;
             }
@@ -707,7 +705,6 @@ public final class TrajectoryRails {
         }
 
         // The name may be declared later on, so its token stands in for the node.
-        @Override
         boolean takeLeaf() {
             if (tokens.kind() != Tokens.NAME) {
                 return false;
@@ -863,7 +860,6 @@ public final class TrajectoryRails {
             return time;
         }
 
-        @Override
         boolean takeLeaf() {
             int variable = tokens.kind() == Tokens.VARIABLE ? claim.variable(tokens.key()) : NONE;
             if (variable == NONE) {
@@ -1038,8 +1034,10 @@ public final class TrajectoryRails {
         // What is given is on the rails before the nodes' own values join it there: a lane that
         // has both rails then is one where two of them differ.
         private void layGivens(int word) {
-            Arrays.fill(ones, row(word, 0), row(word + 1, 0), 0L);
-            Arrays.fill(zeros, row(word, 0), row(word + 1, 0), 0L);
+            for (int at = row(word, 0); at < row(word, claim.last + 1); at++) {
+                ones[at] = 0;
+                zeros[at] = 0;
+            }
             for (int clause = 0; clause < claim.givens; clause++) {
                 long said = says[clauseRow(word, clause)];
                 long held = holds[clauseRow(word, clause)];

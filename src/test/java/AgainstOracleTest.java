@@ -87,8 +87,8 @@ public final class AgainstOracleTest {
             if (i > 0) {
                 out.append(gap()).append("&|^".charAt(random.nextInt(3))).append(gap());
             }
-            while (chance(20)) {
-                out.append('!');
+            if (chance(20)) {
+                out.append("!".repeat(1 + random.nextInt(chance(10) ? 11 : 3)));
             }
             if (size > 1 && chance(25)) {
                 out.append('(').append(formula(size - 1, leaves)).append(')');
@@ -150,9 +150,9 @@ public final class AgainstOracleTest {
     }
 
     private String assertionText() {
-        String[] leaves = new String[random.nextInt(chance(20) ? 10 : 5)];
+        String[] leaves = new String[random.nextInt(chance(25) ? 12 : 5)];
         for (int i = 0; i < leaves.length; i++) {
-            leaves[i] = (char) ('A' + random.nextInt(26)) + (chance(30) ? "7" : "");
+            leaves[i] = (char) ('Z' - i / 2) + (i % 2 == 0 ? "" : "7");
         }
         int most = chance(5) ? 26 : 5;
         return "given" + clauses(leaves, most) + gap() + "then" + clauses(leaves, most) + ".";
