@@ -50,6 +50,19 @@ final class Rig {
         return rails.assertion();
     }
 
+    /** A text is marked with a ~ at the place of its fault; one without has none. */
+    private static int faultIn(String marked) {
+        return marked.indexOf('~') < 0 ? TrajectoryRails.NONE : marked.indexOf('~');
+    }
+
+    static void circuitDue(TrajectoryRails rails, String marked) {
+        due("circuit of " + marked, circuit(rails, marked.replace("~", "")), faultIn(marked));
+    }
+
+    static void assertionDue(TrajectoryRails rails, String marked) {
+        due("assertion of " + marked, assertion(rails, marked.replace("~", "")), faultIn(marked));
+    }
+
     static TrajectoryRails with(String circuit) {
         TrajectoryRails rails = new TrajectoryRails();
         due("circuit of " + circuit, circuit(rails, circuit), TrajectoryRails.NONE);
