@@ -15,6 +15,7 @@ public final class AssertionEdgeTest {
         withoutAtTime0();
         withoutToThatTimeAlone();
         atMost24ClausesInEachPart();
+        eachOf48Clauses();
         variablesInPlaceOfNames();
         atMost9Variables();
         variablesAsTheyComeFirst();
@@ -200,6 +201,34 @@ public final class AssertionEdgeTest {
         Rig.due("behind then", x.count(6), 24);
         Rig.due("the last one given", x.value(1, 0, 0), 0);
         Rig.due("the last one behind then", x.shortfall(0, 0), 23);
+    }
+
+    // "at most 24 clauses in each part": each of them says what its own words say.
+    private static void eachOf48Clauses() {
+        String[] said = {"A", "!A", "B", "A&B", "A|B", "A^B", "!B"};
+        String[] when = {"B|C", "1", "C", "!C", "A"};
+        StringBuilder inputs = new StringBuilder("input n0");
+        StringBuilder given = new StringBuilder();
+        StringBuilder then = new StringBuilder();
+        for (int n = 0; n < 24; n++) {
+            String clause = "n" + n + " is " + said[n % 7] + " if " + when[n % 5];
+            inputs.append(n == 0 ? "" : ",n" + n);
+            given.append(n == 0 ? "" : ",").append(clause);
+            then.append(n == 0 ? "" : ",").append(n == 19 ? "n19 is 1 if !A&!B&C" : clause);
+        }
+        TrajectoryRails x = Rig.with(inputs + ";", "given " + given + " then " + then + ".");
+        for (int n = 0; n < 8; n++) {
+            int a = n >> 2;
+            int b = n >> 1 & 1;
+            int c = n & 1;
+            int[] says = {a, 1 - a, b, a & b, a | b, a ^ b, 1 - b};
+            int[] holds = {b | c, 1, c, 1 - c, a};
+            for (int node = 0; node < 24; node++) {
+                Rig.due("node " + node + " of " + n, x.value(node, 0, n), holds[node % 5] == 1 ? says[node % 7] : 2);
+            }
+            Rig.due("shortfall of " + n, x.shortfall(n, 0), n == 1 ? 19 : NONE);
+        }
+        Rig.due("fails", x.fails(), 1);
     }
 
     // "BOOL: as EXPR, but with VARIABLES in place of names"

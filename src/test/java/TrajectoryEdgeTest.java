@@ -6,6 +6,8 @@ public final class TrajectoryEdgeTest {
     public static void main(String[] args) {
         tableOfNot();
         tablesOfTwo();
+        deepestFormula();
+        longestFormula();
         noVariables();
         variable0IsTheHighest();
         eachNumberOfVariables();
@@ -66,6 +68,51 @@ public final class TrajectoryEdgeTest {
                 Rig.due(left + " ^ " + right, x.value(3, 0, 0), xor[a][b]);
             }
         }
+    }
+
+    // "at most 10 deep": the value of what is as deep as can be, with an operator of each kind waiting
+    // under each bracket, in a circuit and in a BOOL
+    private static void deepestFormula() {
+        String expr = "a|b^c&(".repeat(10) + "a|b^c&d" + ")".repeat(10);
+        String nots = "(a|!".repeat(5) + "d" + ")".repeat(5);
+        TrajectoryRails x = Rig.with("input a, b, c, d; wire w = " + expr + "; wire n = " + nots + ";",
+                "given a is A, b is B, c is C, d is D then w is " + expr.toUpperCase() + ", n is " + nots.toUpperCase() + ".");
+        for (int n = 0; n < 16; n++) {
+            int a = n >> 3;
+            int deep = n & 1;
+            int turned = n & 1;
+            for (int i = 0; i <= 10; i++) {
+                deep = a | ((n >> 2 & 1) ^ ((n >> 1 & 1) & deep));
+            }
+            for (int i = 0; i < 5; i++) {
+                turned = a | (1 - turned);
+            }
+            Rig.due("the deepest of " + n, x.value(4, 0, n), deep);
+            Rig.due("the deepest of ! and brackets of " + n, x.value(5, 0, n), turned);
+        }
+        Rig.due("a BOOL says the same", x.fails(), 0);
+        Rig.assertionDue(x, "given a is A, b is B, c is C, d is D then w is !(" + expr.substring(14, expr.length() - 2).toUpperCase() + ").");
+        Rig.due("and not another", x.fails() > 0 ? 1 : 0, 1);
+    }
+
+    // "at most 300 ATOMS": each of them is looked at.
+    private static void longestFormula() {
+        TrajectoryRails x = Rig.with("input a; wire odd = " + "a^".repeat(298) + "a;");
+        Rig.assertionDue(x, "given a is A then odd is A.");
+        Rig.due("299 of a circuit", x.fails(), 0);
+        Rig.circuitDue(x, "input a; wire even = " + "a^".repeat(299) + "a;");
+        Rig.assertionDue(x, "given a is A then even is 0.");
+        Rig.due("300 of a circuit", x.fails(), 0);
+        Rig.assertionDue(x, "given a is " + "1^".repeat(297) + "A then even is 0, a is !A.");
+        Rig.due("298 of a BOOL", x.fails(), 0);
+        Rig.assertionDue(x, "given a is " + "1^".repeat(298) + "A then even is 0.");
+        Rig.due("299 of a BOOL", x.matters(0, 0, 0) * 10 + x.value(0, 0, 1), 11);
+        // As many signs as 2000 bytes can hold: 281 times !a.
+        Rig.circuitDue(x, "input a;wire w=" + "!!!!!a^".repeat(280) + "!a;");
+        Rig.assertionDue(x, "given a is A then w is !A.");
+        Rig.due("many !", x.fails(), 0);
+        Rig.assertionDue(x, "given a is " + "!!!!!A^".repeat(276) + "!A then w is A.");
+        Rig.due("many ! of a BOOL", x.fails(), 0);
     }
 
     // "An ASSIGNMENT gives each of the V variables 0 or 1": of none there is one, its number 0.
@@ -183,6 +230,15 @@ public final class TrajectoryEdgeTest {
         x = Rig.with("wire z = a; wire y = z & q & r & s; wire a = b; wire b = q; input q, r, s; wire c = y;",
                 "given q is 1, r is 1, s is 1 then c is 1.");
         Rig.due("none fails", x.fails(), 0);
+        // Forty wires, each made of the one that is declared next.
+        StringBuilder text = new StringBuilder();
+        for (int n = 0; n < 39; n++) {
+            text.append("wire n").append(n).append("=!n").append(n + 1).append(';');
+        }
+        x = Rig.with(text + "wire n39=1;", "given n39 is 1 then n0 is 0.");
+        for (int n = 0; n < 40; n++) {
+            Rig.due("of forty wires " + n, x.value(n, 0, 0), n % 2);
+        }
     }
 
     // "if a clause that is given for it and this time .. says 0 or 1 (of its is) X becomes that"
